@@ -1252,7 +1252,7 @@ public final class BottleneckShop {
                 return false;
             }
             int job = state.addJob(release, due);
-            while (job >= 0 && state.steps[job] < STEPS && take(',')) {
+            for (int step = 0; job >= 0 && step < STEPS && take(','); step++) {
                 if (!readOperation(state, job)) {
                     return false;
                 }

@@ -484,6 +484,15 @@ public final class PromisesTest {
         due("another machine", row.breakdown(1, 5, 10, -1), 12);
         due("when all is done", row.breakdown(0, 12, 400, -1), 12);
         due("at the very beginning", row.breakdown(0, 0, 3, -1), 15);
+        due("one after the other: the first one", row.breakdown(0, 5, 10, -1), 19);
+        due("the same with another machine", row.breakdown(1, 5, 10, -1), 12);
+        due("the same with the first machine again", row.breakdown(0, 5, 10, -1), 19);
+        due("the same with another beginning", row.breakdown(0, 7, 10, -1), 15);
+        due("the same with another end", row.breakdown(0, 7, 9, -1), 14);
+        row.change(8, 6);
+        due("the same with another duration", row.breakdown(0, 7, 9, -1), 15);
+        row.undo();
+        due("the same without that change", row.breakdown(0, 7, 9, -1), 14);
         // Begins 0 (job 0), 3 (job 2), 8 (job 1).
         BottleneckShop turned = shop("r0d0,0*3;r0d0,0*4;r0d0,0*5", "0:021");
         due("one that just begins is free", repaired(turned, 1, 3, 3, 0), 0, 1, 2);

@@ -4,6 +4,9 @@
  */
 public final class RandomRunsTest {
     private static final int CALLS = 512;
+    /** Of four jobs on four machines, and of four jobs on three machines. */
+    private static final long ALL_PLANS = 331776;
+    private static final long SOME_PLANS = 13824;
     private static final int[] WILD = {-1, -2, 4, 5, 16, 17, 51, 201, 401, 501, Integer.MAX_VALUE, Integer.MIN_VALUE};
 
     private long seed;
@@ -14,6 +17,9 @@ public final class RandomRunsTest {
     private String call;
     private int got;
     private int want;
+    private int brokenMachine;
+    private int brokenFrom;
+    private int brokenUntil;
 
     private RandomRunsTest(long run, long mostPlans) {
         this.seed = run * 0x9E3779B97F4A7C15L + 12345;
@@ -208,6 +214,16 @@ public final class RandomRunsTest {
         int from = below(10) == 0 ? value(0, 200) : below(Math.min(200, Math.max(1, reference.length() + 2)));
         int until = below(10) == 0 ? value(0, 400) : from + below(30);
         int what = value(-1, 15);
+        if (below(2) == 0) {
+            // The same breakdown as before, or one that differs in one thing.
+            int other = below(4);
+            machine = other == 0 ? machine : brokenMachine;
+            from = other == 1 ? from : brokenFrom;
+            until = other == 2 ? until : brokenUntil;
+        }
+        brokenMachine = machine;
+        brokenFrom = from;
+        brokenUntil = until;
         if (!smallEnough) {
             machine = 4;
         }
@@ -312,12 +328,13 @@ public final class RandomRunsTest {
     }
 
     public static void main(String[] args) {
-        int runs = args.length > 0 ? Integer.parseInt(args[0]) : 150;
+        int runs = args.length > 0 ? Integer.parseInt(args[0]) : 400;
         int first = args.length > 1 ? Integer.parseInt(args[1]) : 0;
-        long mostPlans = args.length > 2 ? Long.parseLong(args[2]) : 13824;
+        long asked = args.length > 2 ? Long.parseLong(args[2]) : 0;
         int wrong = 0;
         for (int run = first; run < first + runs && wrong < 3; run++) {
-            if (!new RandomRunsTest(run, mostPlans).run(run)) {
+            long plans = asked > 0 ? asked : run % 20 == 0 ? ALL_PLANS : SOME_PLANS;
+            if (!new RandomRunsTest(run, plans).run(run)) {
                 wrong++;
             }
         }
