@@ -21,48 +21,6 @@ public final class PromisesTest {
         }
     }
 
-    private static int put(BottleneckShop shop, String text) {
-        int length = shop.count(8);
-        for (int at = 0; at < text.length(); at += 8) {
-            length = shop.put(number(text.substring(at, Math.min(text.length(), at + 8))));
-        }
-        return length;
-    }
-
-    private static long number(String text) {
-        long number = 0;
-        for (char c : text.toCharArray()) {
-            number = number << 8 | c;
-        }
-        return number;
-    }
-
-    private static BottleneckShop shop(String routes) {
-        BottleneckShop shop = new BottleneckShop();
-        put(shop, routes);
-        int jobs = routes.split(";").length;
-        due("loadRoutes of " + routes, shop.loadRoutes(), jobs);
-        return shop;
-    }
-
-    private static BottleneckShop shop(String routes, String plan) {
-        BottleneckShop shop = shop(routes);
-        put(shop, plan);
-        shop.loadPlan();
-        return shop;
-    }
-
-    /** Two jobs that meet on the machines 0 and 1 the other way round. */
-    private static BottleneckShop crossing() {
-        return shop("r0d10,0*5,1*5;r0d10,1*5,0*5");
-    }
-
-    private static BottleneckShop impossible() {
-        BottleneckShop shop = crossing();
-        due("the swap that makes a way round", shop.swap(0, 0), 0);
-        return shop;
-    }
-
     private static int[] orders(BottleneckShop shop) {
         int[] all = new int[16];
         for (int i = 0; i < 16; i++) {
@@ -182,7 +140,7 @@ public final class PromisesTest {
     }
 
     private static void change() {
-        BottleneckShop shop = crossing();
+        BottleneckShop shop = Shops.crossing();
         due("an operation that is not on the route", shop.change(2, 0), NO_SUCH);
         due("an operation of no job", shop.change(8, 1), NO_SUCH);
         due("an operation below 0", shop.change(-1, 1), NO_SUCH);
@@ -203,7 +161,7 @@ public final class PromisesTest {
     }
 
     private static void swap() {
-        BottleneckShop shop = crossing();
+        BottleneckShop shop = Shops.crossing();
         due("machine 4", shop.swap(4, 0), BAD_VALUE);
         due("machine -1", shop.swap(-1, -1), BAD_VALUE);
         due("the last place", shop.swap(0, 1), NO_SUCH);
@@ -220,7 +178,7 @@ public final class PromisesTest {
         due("the other machine, too", shop.swap(1, 0), 1);
         due("the length is as before", shop.length(), 20);
         due("changes", shop.count(9), 3);
-        BottleneckShop three = shop("r0d0,2*1;r0d0,2*1;r0d0,2*1");
+        BottleneckShop three = Shops.of("r0d0,2*1;r0d0,2*1;r0d0,2*1");
         due("the place in the middle", three.swap(2, 1), 1);
         due("the order of three", orderOf(three, 2), 0, 2, 1);
     }
@@ -229,7 +187,7 @@ public final class PromisesTest {
         BottleneckShop none = new BottleneckShop();
         due("the best of nothing", none.takeBest(), 0);
         due("it is a change", none.count(9), 1);
-        BottleneckShop shop = impossible();
+        BottleneckShop shop = Shops.impossible();
         due("its length", shop.takeBest(), 10);
         due("machine 0", orderOf(shop, 0), 0, 1);
         due("machine 1", orderOf(shop, 1), 1, 0);
@@ -240,15 +198,15 @@ public final class PromisesTest {
         shop.undo();
         shop.undo();
         due("undone", shop.length(), NONE);
-        BottleneckShop same = shop("r0d0,1*3;r0d0,1*3;r0d0,1*3", "1:201");
+        BottleneckShop same = Shops.of("r0d0,1*3;r0d0,1*3;r0d0,1*3", "1:201");
         due("all plans are as long", same.takeBest(), 9);
         due("the first one by the numbers", orderOf(same, 1), 0, 1, 2);
     }
 
     private static void improve() {
         due("nothing to improve", new BottleneckShop().improve(), NOT_POSSIBLE);
-        due("not possible", impossible().improve(), NOT_POSSIBLE);
-        BottleneckShop shop = crossing();
+        due("not possible", Shops.impossible().improve(), NOT_POSSIBLE);
+        BottleneckShop shop = Shops.crossing();
         due("one swap", shop.improve(), 10);
         due("the length then", shop.length(), 10);
         due("machine 0 keeps its order", orderOf(shop, 0), 0, 1);
@@ -256,10 +214,10 @@ public final class PromisesTest {
         due("changes", shop.count(9), 2);
         due("no better one", shop.improve(), NOT_POSSIBLE);
         due("no change", shop.count(9), 2);
-        BottleneckShop alike = shop("r0d0,0*3;r0d0,0*3");
+        BottleneckShop alike = Shops.of("r0d0,0*3;r0d0,0*3");
         due("a swap that is as long", alike.improve(), NOT_POSSIBLE);
         // On the path 0, 4, 8, 9: 8 ahead of 4 gives 16, 4 ahead of 0 gives 19 as before.
-        BottleneckShop behind = shop("r0d0,0*3;r0d0,0*6;r0d0,0*2,1*8");
+        BottleneckShop behind = Shops.of("r0d0,0*3;r0d0,0*6;r0d0,0*2,1*8");
         due("the swap that helps", behind.improve(), 13);
         due("the second one along the path", orderOf(behind, 0), 0, 2, 1);
         due("and the first one", behind.improve(), 11);
@@ -268,20 +226,20 @@ public final class PromisesTest {
     }
 
     private static void length() {
-        due("not possible", impossible().length(), NONE);
-        due("two jobs", crossing().length(), 20);
-        due("a release counts", shop("r7d0,0*3").length(), 10);
-        due("a job without operations does not", shop("r50d0;r1d0,0*3").length(), 4);
-        due("with a gap", shop("r0d0,0*3;r9d0,0*3,1*1").length(), 13);
+        due("not possible", Shops.impossible().length(), NONE);
+        due("two jobs", Shops.crossing().length(), 20);
+        due("a release counts", Shops.of("r7d0,0*3").length(), 10);
+        due("a job without operations does not", Shops.of("r50d0;r1d0,0*3").length(), 4);
+        due("with a gap", Shops.of("r0d0,0*3;r9d0,0*3,1*1").length(), 13);
     }
 
     private static void about() {
-        BottleneckShop shop = crossing();
+        BottleneckShop shop = Shops.crossing();
         due("operation 0", about(shop, 0), 0, 5, 0, 0, 15, 0, 1, 0);
         due("operation 1", about(shop, 1), 1, 5, 0, 5, 10, 0, 1, 1);
         due("operation 4", about(shop, 4), 1, 5, 1, 10, 5, 0, 1, 2);
         due("operation 5", about(shop, 5), 0, 5, 1, 15, 0, 0, 1, 3);
-        BottleneckShop gap = shop("r2d0,0*3,1*4;r0d0,2*1,0*2");
+        BottleneckShop gap = Shops.of("r2d0,0*3,1*4;r0d0,2*1,0*2");
         due("a slack", about(gap, 4), 2, 1, 0, 0, 2, 6, 0, NONE);
         due("behind on the machine", about(gap, 5), 0, 2, 1, 5, 0, 2, 0, NONE);
         due("the first one", about(gap, 0), 0, 3, 0, 2, 4, 0, 1, 0);
@@ -294,31 +252,31 @@ public final class PromisesTest {
             due("about(far, 0)", shop.about(far, 0), NO_SUCH);
             due("about(0, far)", shop.about(0, far), BAD_VALUE);
         }
-        BottleneckShop round = impossible();
+        BottleneckShop round = Shops.impossible();
         due("not possible", about(round, 0), 0, 5, 1, NONE, NONE, NONE, NONE, NONE);
         due("not possible and what 8", round.about(0, 8), BAD_VALUE);
     }
 
     private static void path() {
-        due("all four", pathOf(crossing()), 0, 1, 4, 5);
-        due("below 0", crossing().path(-1), NONE);
+        due("all four", pathOf(Shops.crossing()), 0, 1, 4, 5);
+        due("below 0", Shops.crossing().path(-1), NONE);
         for (int far : FAR_OFF) {
-            due("path(far)", crossing().path(far), NONE);
+            due("path(far)", Shops.crossing().path(far), NONE);
         }
-        due("not possible", impossible().path(0), NONE);
-        due("it begins later than its first release", pathOf(shop("r0d0,0*3;r9d0,0*3,1*1")), 4, 5);
-        due("the lowest of two that begin it", pathOf(shop("r0d0,0*3;r0d0,1*3")), 0);
+        due("not possible", Shops.impossible().path(0), NONE);
+        due("it begins later than its first release", pathOf(Shops.of("r0d0,0*3;r9d0,0*3,1*1")), 4, 5);
+        due("the lowest of two that begin it", pathOf(Shops.of("r0d0,0*3;r0d0,1*3")), 0);
         // Operation 0 ends just when job 1 is released: 4 begins a critical path, too, but 0 is lower.
-        due("the lower one ends just then", pathOf(shop("r0d0,0*3;r3d0,0*2")), 0, 4);
+        due("the lower one ends just then", pathOf(Shops.of("r0d0,0*3;r3d0,0*2")), 0, 4);
         // Now the one that ends just then is the higher one.
-        due("the lowest one begins at its release", pathOf(shop("r3d0,0*2;r0d0,0*3", "0:10")), 0);
+        due("the lowest one begins at its release", pathOf(Shops.of("r3d0,0*2;r0d0,0*3", "0:10")), 0);
         // Behind operation 0 both operation 1 and operation 4 go on.
-        due("the route goes first", pathOf(shop("r0d0,0*3,1*4;r0d0,0*4")), 0, 1);
-        due("the machine, if only that is critical", pathOf(shop("r0d0,0*3,1*4;r0d0,0*5")), 0, 4);
+        due("the route goes first", pathOf(Shops.of("r0d0,0*3,1*4;r0d0,0*4")), 0, 1);
+        due("the machine, if only that is critical", pathOf(Shops.of("r0d0,0*3,1*4;r0d0,0*5")), 0, 4);
     }
 
     private static void order() {
-        BottleneckShop shop = shop("r0d0,2*1;r0d0;r0d0,2*1,0*1", "2:20");
+        BottleneckShop shop = Shops.of("r0d0,2*1;r0d0;r0d0,2*1,0*1", "2:20");
         due("machine 2", orderOf(shop, 2), 2, 0);
         due("machine 0", orderOf(shop, 0), 2);
         due("machine 1", orderOf(shop, 1));
@@ -333,15 +291,15 @@ public final class PromisesTest {
     }
 
     private static void ofJob() {
-        BottleneckShop shop = shop("r2d5,0*3,1*4;r7d4");
+        BottleneckShop shop = Shops.of("r2d5,0*3,1*4;r7d4");
         int[] first = {2, 5, 2, 7, 9, 4};
         int[] second = {7, 4, 0, 0, 7, 3};
         for (int what = 0; what < 6; what++) {
             due("of the first job " + what, shop.ofJob(0, what), first[what]);
             due("of the second job " + what, shop.ofJob(1, what), second[what]);
         }
-        due("in time", shop("r0d9,0*3").ofJob(0, 5), 0);
-        due("just in time", shop("r0d3,0*3").ofJob(0, 5), 0);
+        due("in time", Shops.of("r0d9,0*3").ofJob(0, 5), 0);
+        due("just in time", Shops.of("r0d3,0*3").ofJob(0, 5), 0);
         due("no such job", shop.ofJob(2, 9), NO_SUCH);
         due("a job below 0", shop.ofJob(-1, 0), NO_SUCH);
         due("what 6", shop.ofJob(0, 6), BAD_VALUE);
@@ -350,7 +308,7 @@ public final class PromisesTest {
             due("ofJob(far, 0)", shop.ofJob(far, 0), NO_SUCH);
             due("ofJob(0, far)", shop.ofJob(0, far), BAD_VALUE);
         }
-        BottleneckShop round = impossible();
+        BottleneckShop round = Shops.impossible();
         round.job(3, 1);
         due("not possible: the sum", round.ofJob(1, 3), 10);
         due("not possible: the end", round.ofJob(1, 4), NONE);
@@ -360,12 +318,12 @@ public final class PromisesTest {
     }
 
     private static void count() {
-        BottleneckShop shop = crossing();
-        put(shop, "rd");
+        BottleneckShop shop = Shops.crossing();
+        Shops.put(shop, "rd");
         due("counts", counts(shop), 2, 4, 20, 4, 3, 10, 10, 1, 2, 1);
-        BottleneckShop late = shop("r0d1,0*3;r0d3,0*3,1*3;r9d5");
+        BottleneckShop late = Shops.of("r0d1,0*3;r0d3,0*3,1*3;r9d5");
         due("lateness", counts(late), 3, 3, 9, 3, 2, 12, 6, 1, 0, 1);
-        BottleneckShop round = impossible();
+        BottleneckShop round = Shops.impossible();
         due("not possible", counts(round), 2, 4, 20, NONE, NONE, NONE, NONE, 0, 0, 2);
         due("what 10", shop.count(10), BAD_VALUE);
         due("what -1", round.count(-1), BAD_VALUE);
@@ -375,7 +333,7 @@ public final class PromisesTest {
     }
 
     private static void bound() {
-        BottleneckShop shop = shop("r0d0,0*4,1*9;r2d0,0*3,1*1;r0d0,2*1,0*5");
+        BottleneckShop shop = Shops.of("r0d0,0*4,1*9;r2d0,0*3,1*1;r0d0,2*1,0*5");
         // Machine 0: job 0 to 4, then job 1 (tail 1) to 7, then job 2 to 12; job 0 gives 4 + 9.
         due("machine 0", shop.bound(0), 13);
         // Machine 1: heads 4 and 5.
@@ -384,11 +342,11 @@ public final class PromisesTest {
         due("machine 3", shop.bound(3), 0);
         due("all", shop.bound(-1), 14);
         // Job 0 works from 0 to 2, is interrupted from 2 to 5 for the greater tail, and goes on to 13.
-        due("an interruption", shop("r0d0,0*10,1*1;r2d0,0*3,1*9").bound(0), 14);
+        due("an interruption", Shops.of("r0d0,0*10,1*1;r2d0,0*3,1*9").bound(0), 14);
         // The machine waits for the first head.
-        due("a gap", shop("r1d0,0*2;r9d0,0*2").bound(0), 11);
+        due("a gap", Shops.of("r1d0,0*2;r9d0,0*2").bound(0), 11);
         due("without jobs", new BottleneckShop().bound(-1), 0);
-        due("orders do not matter", impossible().bound(-1), 10);
+        due("orders do not matter", Shops.impossible().bound(-1), 10);
         due("machine 4", shop.bound(4), BAD_VALUE);
         due("machine -2", shop.bound(-2), BAD_VALUE);
         for (int far : FAR_OFF) {
@@ -397,7 +355,7 @@ public final class PromisesTest {
     }
 
     private static void forced() {
-        BottleneckShop shop = crossing();
+        BottleneckShop shop = Shops.crossing();
         due("a wide limit", shop.forced(500), 0);
         // Either order of a pair alone gives 20 or 10.
         due("20", shop.forced(20), 0);
@@ -411,16 +369,16 @@ public final class PromisesTest {
             due("forced(far)", shop.forced(far), BAD_VALUE);
         }
         due("no operations", new BottleneckShop().forced(0), 0);
-        due("the plan does not matter", impossible().forced(10), 2);
-        due("both orders of a pair", shop("r0d0,0*5;r0d0,0*5").forced(9), NONE);
+        due("the plan does not matter", Shops.impossible().forced(10), 2);
+        due("both orders of a pair", Shops.of("r0d0,0*5;r0d0,0*5").forced(9), NONE);
         // Job 0 has to go first; then each of the other two may.
-        BottleneckShop three = shop("r0d0,0*2,1*9;r0d0,0*3;r0d0,0*4");
+        BottleneckShop three = Shops.of("r0d0,0*2,1*9;r0d0,0*3;r0d0,0*4");
         due("two of three pairs", three.forced(12), 2);
         due("three jobs, wider", three.forced(14), 1);
     }
 
     private static void isForced() {
-        BottleneckShop shop = crossing();
+        BottleneckShop shop = Shops.crossing();
         due("0 ahead of 5", shop.isForced(10, 0, 5), 1);
         due("5 ahead of 0", shop.isForced(10, 5, 0), 0);
         due("4 ahead of 1", shop.isForced(19, 4, 1), 1);
@@ -440,7 +398,7 @@ public final class PromisesTest {
             due("isForced(10, 0, far)", shop.isForced(10, 0, far), NO_SUCH);
         }
         // Operation 0 is ahead of 4, and 4 is ahead of 8, by the limit; 0 ahead of 8 is forced, too.
-        BottleneckShop three = shop("r0d0,0*2,1*9;r0d0,0*3;r0d0,0*4");
+        BottleneckShop three = Shops.of("r0d0,0*2,1*9;r0d0,0*3;r0d0,0*4");
         due("0 ahead of 4", three.isForced(12, 0, 4), 1);
         due("0 ahead of 8", three.isForced(12, 0, 8), 1);
         due("4 and 8", three.isForced(12, 4, 8), 0);
@@ -448,7 +406,7 @@ public final class PromisesTest {
     }
 
     private static void best() {
-        BottleneckShop shop = impossible();
+        BottleneckShop shop = Shops.impossible();
         due("the length", shop.best(-1, 0), 10);
         due("the length at no place", shop.best(-1, Integer.MIN_VALUE), 10);
         int[] found = {shop.best(0, 0), shop.best(0, 1), shop.best(1, 0), shop.best(1, 1)};
@@ -466,7 +424,7 @@ public final class PromisesTest {
         due("it is no change", shop.count(9), 2);
         due("nothing", new BottleneckShop().best(-1, 0), 0);
         // 2 has to be first and 1 last; 0 and 3 may stand either way.
-        BottleneckShop four = shop("r2d0,0*2,1*2;r6d0,0*2;r0d0,0*2,1*4;r2d0,0*2,2*2", "0:1032");
+        BottleneckShop four = Shops.of("r2d0,0*2,1*2;r6d0,0*2;r0d0,0*2,1*4;r2d0,0*2,2*2", "0:1032");
         int[] order = {four.best(0, 0), four.best(0, 1), four.best(0, 2), four.best(0, 3)};
         due("the first of the best orders", order, 2, 0, 3, 1);
         due("its length", four.best(-1, 0), 8);
@@ -476,7 +434,7 @@ public final class PromisesTest {
 
     private static void breakdown() {
         // Begins 0, 3, 7; ends 3, 7, 12.
-        BottleneckShop row = shop("r0d0,0*3;r0d0,0*4;r0d0,0*5");
+        BottleneckShop row = Shops.of("r0d0,0*3;r0d0,0*4;r0d0,0*5");
         due("the second one is broken off", row.breakdown(0, 5, 10, -1), 19);
         due("in an instant", row.breakdown(0, 5, 5, -1), 14);
         due("just when the second one ends", row.breakdown(0, 7, 7, -1), 12);
@@ -494,14 +452,14 @@ public final class PromisesTest {
         row.undo();
         due("the same without that change", row.breakdown(0, 7, 9, -1), 14);
         // Begins 0 (job 0), 3 (job 2), 8 (job 1).
-        BottleneckShop turned = shop("r0d0,0*3;r0d0,0*4;r0d0,0*5", "0:021");
+        BottleneckShop turned = Shops.of("r0d0,0*3;r0d0,0*4;r0d0,0*5", "0:021");
         due("one that just begins is free", repaired(turned, 1, 3, 3, 0), 0, 1, 2);
         due("one that has begun stays", repaired(turned, 1, 4, 4, 0), 0, 2, 1);
         due("one that is broken off is free", repaired(turned, 0, 4, 4, 0), 0, 1, 2);
         due("one that has ended stays", repaired(turned, 0, 8, 9, 0), 0, 2, 1);
         due("the plan is not changed", orderOf(turned, 0), 0, 2, 1);
         // Job 1 begins anew at 12 on machine 1, and is 22 at the end of machine 0; job 0 is 22 at the end behind it.
-        BottleneckShop shop = crossing();
+        BottleneckShop shop = Shops.crossing();
         shop.improve();
         due("both machines", shop.breakdown(1, 3, 12, -1), 22);
         due("the order on machine 1", repaired(shop, 1, 3, 12, 1), 1, 0);
@@ -512,7 +470,7 @@ public final class PromisesTest {
             {0, 5, 5, -2}, {0, 5, 5, 16}};
         for (int[] each : bad) {
             due("out of range", shop.breakdown(each[0], each[1], each[2], each[3]), BAD_VALUE);
-            due("out of range, not possible", impossible().breakdown(each[0], each[1], each[2], each[3]), BAD_VALUE);
+            due("out of range, not possible", Shops.impossible().breakdown(each[0], each[1], each[2], each[3]), BAD_VALUE);
         }
         for (int far : FAR_OFF) {
             due("breakdown(far, ..)", shop.breakdown(far, 0, 0, -1), BAD_VALUE);
@@ -520,8 +478,8 @@ public final class PromisesTest {
             due("breakdown(0, 0, far, -1)", shop.breakdown(0, 0, far, -1), BAD_VALUE);
             due("breakdown(0, 0, 0, far)", shop.breakdown(0, 0, 0, far), BAD_VALUE);
         }
-        due("not possible", impossible().breakdown(0, 0, 0, -1), NOT_POSSIBLE);
-        due("not possible, ahead of NONE", impossible().breakdown(0, 0, 0, 15), NOT_POSSIBLE);
+        due("not possible", Shops.impossible().breakdown(0, 0, 0, -1), NOT_POSSIBLE);
+        due("not possible, ahead of NONE", Shops.impossible().breakdown(0, 0, 0, 15), NOT_POSSIBLE);
         due("the edges", shop.breakdown(3, 200, 400, -1), 10);
         due("no operations", new BottleneckShop().breakdown(0, 0, 0, -1), 0);
     }
@@ -529,7 +487,7 @@ public final class PromisesTest {
     private static void put() {
         BottleneckShop shop = new BottleneckShop();
         due("one character", shop.put('r'), 1);
-        due("eight characters", shop.put(number("12345678")), 9);
+        due("eight characters", shop.put(Shops.number("12345678")), 9);
         due("no character", shop.put(0), BAD_VALUE);
         due("code 32", shop.put(32), BAD_VALUE);
         due("code 33", shop.put(33), 10);
@@ -541,18 +499,18 @@ public final class PromisesTest {
         due("a bit far above", shop.put(1L << 63 | 'r'), BAD_VALUE);
         due("all bits", shop.put(-1), BAD_VALUE);
         due("the least number", shop.put(Long.MIN_VALUE), BAD_VALUE);
-        due("a bad code in the middle", shop.put(number("ab\u0020cd")), BAD_VALUE);
+        due("a bad code in the middle", shop.put(Shops.number("ab\u0020cd")), BAD_VALUE);
         due("the length", shop.count(8), 11);
         for (int length = 19; length <= 75; length += 8) {
-            due("on to " + length, shop.put(number("aaaaaaaa")), length);
+            due("on to " + length, shop.put(Shops.number("aaaaaaaa")), length);
         }
-        due("one too many", shop.put(number("aaaaaa")), TOO_MANY);
-        due("bad ahead of too many", shop.put(number("aaaaa\u0001")), BAD_VALUE);
-        due("just 80", shop.put(number("aaaaa")), 80);
+        due("one too many", shop.put(Shops.number("aaaaaa")), TOO_MANY);
+        due("bad ahead of too many", shop.put(Shops.number("aaaaa\u0001")), BAD_VALUE);
+        due("just 80", shop.put(Shops.number("aaaaa")), 80);
         due("81", shop.put('a'), TOO_MANY);
         due("it is no change", shop.count(9), 0);
         BottleneckShop order = new BottleneckShop();
-        order.put(number("r1d2,0*"));
+        order.put(Shops.number("r1d2,0*"));
         order.put('3');
         due("the characters stand in their order", order.loadRoutes(), 1);
         due("and are what they were", order.about(0, 1), 3);
@@ -561,17 +519,17 @@ public final class PromisesTest {
     private static void wipe() {
         BottleneckShop shop = new BottleneckShop();
         due("an empty pad", shop.wipe(), 0);
-        shop.put(number("abc"));
+        shop.put(Shops.number("abc"));
         due("three", shop.wipe(), 3);
         due("none then", shop.count(8), 0);
         due("it is no change", shop.count(9), 0);
-        put(shop, "r1d2");
+        Shops.put(shop, "r1d2");
         due("what comes then stands alone", shop.loadRoutes(), 1);
     }
 
     private static int faultOf(String text, int kind) {
         BottleneckShop shop = new BottleneckShop();
-        put(shop, text);
+        Shops.put(shop, text);
         int fault = shop.fault(kind);
         due("the pad stays: " + text, shop.count(8), text.length());
         return fault;
@@ -610,14 +568,14 @@ public final class PromisesTest {
     }
 
     private static void loadRoutes() {
-        BottleneckShop shop = crossing();
+        BottleneckShop shop = Shops.crossing();
         due("an empty pad", shop.loadRoutes(), BAD_TEXT);
-        put(shop, "r1d2,3*");
+        Shops.put(shop, "r1d2,3*");
         due("a text with a fault", shop.loadRoutes(), BAD_TEXT);
         due("the pad stays", shop.wipe(), 7);
         due("the jobs stay", shop.count(1), 4);
         due("no change", shop.count(9), 1);
-        put(shop, "r1d2,3*4,0*5;r6d7;r8d9,0*10");
+        Shops.put(shop, "r1d2,3*4,0*5;r6d7;r8d9,0*10");
         due("three jobs", shop.loadRoutes(), 3);
         due("the pad is empty", shop.count(8), 0);
         due("a change", shop.count(9), 2);
@@ -633,31 +591,31 @@ public final class PromisesTest {
     }
 
     private static void loadPlan() {
-        BottleneckShop shop = crossing();
+        BottleneckShop shop = Shops.crossing();
         due("an empty pad", shop.loadPlan(), BAD_TEXT);
         int[][] due = {{0, 1, 0, 1}};
         String[] wrongOnes = {"0:0", "0:", "0:012", "0:02", "0:10;2:0", "2:3", "1:01;0:1"};
         for (String text : wrongOnes) {
-            put(shop, text);
+            Shops.put(shop, text);
             due("not just the jobs: " + text, shop.loadPlan(), NOT_POSSIBLE);
             due("the pad stays: " + text, shop.wipe(), text.length());
             due("the orders stay", new int[] {shop.order(0, 0), shop.order(0, 1), shop.order(1, 0), shop.order(1, 1)}, due[0]);
         }
-        put(shop, "0:0;0");
+        Shops.put(shop, "0:0;0");
         due("a fault ahead of that", shop.loadPlan(), BAD_TEXT);
         shop.wipe();
         due("no change", shop.count(9), 1);
-        put(shop, "0:10");
+        Shops.put(shop, "0:10");
         due("a way round", shop.loadPlan(), 0);
         due("the pad is empty", shop.count(8), 0);
         due("the other machine keeps its order", orderOf(shop, 1), 0, 1);
-        put(shop, "2:;1:10;3:");
+        Shops.put(shop, "2:;1:10;3:");
         due("possible", shop.loadPlan(), 1);
         due("machine 0 keeps its order", orderOf(shop, 0), 1, 0);
         due("machine 1", orderOf(shop, 1), 1, 0);
         due("changes", shop.count(9), 3);
         BottleneckShop none = new BottleneckShop();
-        put(none, "0:;1:");
+        Shops.put(none, "0:;1:");
         due("without jobs", none.loadPlan(), 1);
         due("it is a change", none.count(9), 1);
     }
@@ -693,7 +651,7 @@ public final class PromisesTest {
         due("no more", shop.undo(), NOT_POSSIBLE);
         due("a job anew", shop.job(7, 7), 2);
         due("its route is empty", shop.ofJob(2, 2), 0);
-        BottleneckShop kinds = crossing();
+        BottleneckShop kinds = Shops.crossing();
         kinds.takeBest();
         kinds.save(1);
         kinds.restore(1);
@@ -710,7 +668,7 @@ public final class PromisesTest {
     }
 
     private static void save() {
-        BottleneckShop shop = crossing();
+        BottleneckShop shop = Shops.crossing();
         due("slot -1", shop.save(-1), BAD_VALUE);
         due("slot 2", shop.save(2), BAD_VALUE);
         for (int far : FAR_OFF) {
@@ -728,7 +686,7 @@ public final class PromisesTest {
     }
 
     private static void restore() {
-        BottleneckShop shop = crossing();
+        BottleneckShop shop = Shops.crossing();
         due("slot -1", shop.restore(-1), BAD_VALUE);
         due("slot 2", shop.restore(2), BAD_VALUE);
         for (int far : FAR_OFF) {
@@ -740,7 +698,7 @@ public final class PromisesTest {
         due("no change", shop.count(9), 1);
         shop.swap(0, 0);
         shop.change(0, 9);
-        put(shop, "abc");
+        Shops.put(shop, "abc");
         due("two jobs", shop.restore(0), 2);
         due("the length", shop.length(), 20);
         due("the duration", shop.about(0, 1), 5);
