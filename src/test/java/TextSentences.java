@@ -327,7 +327,8 @@ final class TextSentences extends Sentences {
             for (int size = 1; size <= 8; size++) {
                 BottleneckShop nearly = padOf(Shops.FULL_PAD.substring(0, length));
                 boolean fits = length + size <= 80;
-                due(size + " to " + length, nearly.put(Shops.number("12345678".substring(0, size))), fits ? length + size : TOO_MANY);
+                long characters = Shops.number("12345678".substring(0, size));
+                due(size + " to " + length, nearly.put(characters), fits ? length + size : TOO_MANY);
                 due("the length then", nearly.count(8), fits ? length + size : length);
             }
         }
@@ -489,7 +490,8 @@ final class TextSentences extends Sentences {
         of(23, "BAD_TEXT if the pad has a fault as a plan;");
         due("an empty pad", Shops.crossing().loadPlan(), BAD_TEXT);
         due("an empty pad, no jobs", new BottleneckShop().loadPlan(), BAD_TEXT);
-        for (String text : new String[] {"0", "0:01;", "0:011", "0:01;0:01", "4:", "0:4", "r0d0", "0:01;1:10;2:;3:;", "0:0;x", "2:3;"}) {
+        for (String text : new String[] {"0", "0:01;", "0:011", "0:01;0:01", "4:", "0:4", "r0d0", "0:01;1:10;2:;3:;", "0:0;x",
+            "2:3;"}) {
             refused(text, BAD_TEXT);
         }
 
