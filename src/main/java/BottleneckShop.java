@@ -55,7 +55,7 @@ public final class BottleneckShop {
         if (now.jobs >= JOBS) {
             return TOO_MANY;
         }
-        record();
+        beginChange();
         return now.addJob(release, due);
     }
 
@@ -69,7 +69,7 @@ public final class BottleneckShop {
         if (now.operationOf(job, machine) != NONE) {
             return NOT_POSSIBLE;
         }
-        record();
+        beginChange();
         return now.addOperation(job, machine, duration);
     }
 
@@ -80,7 +80,7 @@ public final class BottleneckShop {
         if (!within(duration, 1, MOST_DURATION)) {
             return BAD_VALUE;
         }
-        record();
+        beginChange();
         int previous = now.duration[operation];
         now.duration[operation] = duration;
         return previous;
@@ -93,7 +93,7 @@ public final class BottleneckShop {
         if (place < 0 || place >= now.queued[machine] - 1) {
             return NO_SUCH;
         }
-        record();
+        beginChange();
         now.exchange(machine, place);
         return knowPlan() ? 1 : 0;
     }
@@ -101,7 +101,7 @@ public final class BottleneckShop {
     public int takeBest() {
         leastPlan.net.load(now);
         leastPlan.find();
-        record();
+        beginChange();
         copyRow(leastPlan.found, now.queue);
         return leastPlan.least;
     }
@@ -125,7 +125,7 @@ public final class BottleneckShop {
         if (chosen == NONE) {
             return NOT_POSSIBLE;
         }
-        record();
+        beginChange();
         now.exchange(now.machine[chosen], now.placeOf(chosen));
         return least;
     }
@@ -310,7 +310,7 @@ public final class BottleneckShop {
         if (pad.readRoutes(draft) != NONE) {
             return BAD_TEXT;
         }
-        record();
+        beginChange();
         now.become(draft);
         pad.length = 0;
         return now.jobs;
@@ -325,7 +325,7 @@ public final class BottleneckShop {
                 return NOT_POSSIBLE;
             }
         }
-        record();
+        beginChange();
         for (int machine = 0; machine < MACHINES; machine++) {
             if (pad.names(machine)) {
                 now.takeOrder(draft, machine);
@@ -364,7 +364,7 @@ public final class BottleneckShop {
         if (!saved[slot]) {
             return NOT_POSSIBLE;
         }
-        record();
+        beginChange();
         now.become(slots[slot]);
         return now.jobs;
     }
@@ -386,7 +386,7 @@ public final class BottleneckShop {
     }
 
     /** Every change comes through here before it happens. */
-    private void record() {
+    private void beginChange() {
         history.record(now);
         forgetAnswers();
     }
@@ -1136,7 +1136,7 @@ public final class BottleneckShop {
             net.measure();
             // No plan is shorter than the bound, so the first limit that a plan keeps is the least length.
             least = net.greatestBound();
-            while (least < FAR && !complete(0, least)) {
+            while (least < FAR && !complete(this, 0, least)) {
                 copyRow(settled, net.ahead);
                 least++;
             }
@@ -1162,7 +1162,7 @@ public final class BottleneckShop {
                 }
                 net.letFirst(machine, job, left & ~(1 << job));
                 copyRow(net.ahead, tried);
-                if ((witness[operation] & left) == 0 || complete(0, least)) {
+                if ((witness[operation] & left) == 0 || complete(this, 0, least)) {
                     copyRow(tried, settled);
                     return job;
                 }
@@ -1184,25 +1184,26 @@ public final class BottleneckShop {
         }
 
         /** Decides all pairs that are not decided so that the limit is kept; false if there is no such way. */
-        private boolean complete(int pairs, int limit) {
-            if (pairs > PAIRS || !net.keeps(limit)) {
+        private static boolean complete(Search search, int pairs, int limit) {
+            if (search == null || pairs < 0 || pairs > PAIRS || !search.net.keeps(limit)) {
                 return false;
             }
+            Net net = search.net;
             int pair = net.longestPair();
             if (pair == NONE) {
-                copyRow(net.ahead, witness);
+                copyRow(net.ahead, search.witness);
                 return true;
             }
             int one = pair / OPERATIONS;
             int other = pair % OPERATIONS;
-            copyRow(net.ahead, kept[pairs]);
+            copyRow(net.ahead, search.kept[pairs]);
             net.decide(one, other);
-            if (complete(pairs + 1, limit)) {
+            if (complete(search, pairs + 1, limit)) {
                 return true;
             }
-            copyRow(kept[pairs], net.ahead);
+            copyRow(search.kept[pairs], net.ahead);
             net.decide(other, one);
-            return complete(pairs + 1, limit);
+            return complete(search, pairs + 1, limit);
         }
     }
 
